@@ -197,7 +197,7 @@ public final class WarmChairs {
         if (!within(what, 0, 5)) return NOT_AS_TOLD;
         liveAsItIs(n);
         switch (what) {
-            case 0: return evening.risenTogether();
+            case 0: return evening.risen;
             case 1: return evening.stoodTogether();
             case 2: return evening.stoodLongest();
             case 3: return evening.warmSet(n);
@@ -279,11 +279,11 @@ public final class WarmChairs {
     public int lent(int c, int what) {
         if (!isChair(c) || !within(what, 0, 1)) return NOT_LENT;
         liveAsItIs(MINUTES);
-        int rises = evening.risenTogether();
+        int rises = evening.risen;
         int stood = evening.stoodTogether();
         evening.house.lentAway = c;
         liveTrial(MINUTES);
-        return what == 0 ? rises - evening.risenTogether() : evening.stoodTogether() - stood;
+        return what == 0 ? rises - evening.risen : evening.stoodTogether() - stood;
     }
 
     public int move(int what) {
@@ -505,14 +505,15 @@ public final class WarmChairs {
     private void liveTrial(int n) {
         Law law = lawOf(evening.house);
         evening.start();
-        for (int m = 0; m < n; m++) evening.pass(law, m);
+        // Nothing changes any more once all have risen.
+        for (int m = 0; m < n && evening.risen < evening.house.people; m++) evening.pass(law, m);
     }
 
     private int risesBySet(int set) {
         evening.house.become(home);
         evening.house.warmSet = set;
         liveTrial(MINUTES);
-        return evening.risenTogether();
+        return evening.risen;
     }
 
     private int firstOtherwise(Sheet sheet, int n) {
@@ -530,7 +531,7 @@ public final class WarmChairs {
 
     /** Whether the evening just lived is BETTER than the best so far; then it is the best. */
     private boolean isBest() {
-        int rises = evening.risenTogether();
+        int rises = evening.risen;
         int stood = evening.stoodTogether();
         if (rises < bestRises || rises == bestRises && stood >= bestStood) return false;
         bestRises = rises;
@@ -711,8 +712,11 @@ public final class WarmChairs {
         final int[] till = new int[CHAIRS_MOST];
         final int[] sitter = new int[CHAIRS_MOST];
         final int[] names = new int[NAMES];
+        /** How many have risen. */
+        int risen = 0;
 
         void start() {
+            risen = 0;
             Arrays.fill(sitsOn, NONE);
             Arrays.fill(satDownOn, NONE);
             Arrays.fill(sat, 0);
@@ -742,6 +746,7 @@ public final class WarmChairs {
             sitter[c] = NONE;
             sitsOn[p] = NONE;
             risenAt[p] = m;
+            risen++;
         }
 
         private void sitDown(Law law, int m) {
@@ -819,12 +824,6 @@ public final class WarmChairs {
             int set = 0;
             for (int c = 0; c < house.chairs; c++) if (isSatOn(c)) set |= 1 << c;
             return set;
-        }
-
-        int risenTogether() {
-            int risen = 0;
-            for (int p = 0; p < house.people; p++) if (risenAt[p] >= 0) risen++;
-            return risen;
         }
 
         int stoodTogether() {
