@@ -201,20 +201,17 @@ public final class WarmChairs {
             case 1: return evening.stoodTogether();
             case 2: return evening.stoodLongest();
             case 3: return evening.warmSet(n);
-            case 4: return evening.satOnSet();
+            case 4: return evening.satOn;
             default: return evening.costsTogether(lawOf(home));
         }
     }
 
     public int cold() {
-        evening.house.become(home);
-        evening.start();
-        int coldFrom = 0;
-        for (int n = 0; n <= MINUTES; n++) {
-            if (evening.warmSet(n) != 0 || evening.satOnSet() != 0) coldFrom = n + 1;
-            if (n < MINUTES) evening.pass(lawOf(home), n);
+        for (int n = MINUTES; n >= 0; n--) {
+            liveAsItIs(n);
+            if (evening.warmSet(n) != 0 || evening.satOn != 0) return n < MINUTES ? n + 1 : NONE;
         }
-        return coldFrom > MINUTES ? NONE : coldFrom;
+        return 0;
     }
 
     // ---- what would be better
@@ -240,7 +237,7 @@ public final class WarmChairs {
         evening.house.become(home);
         for (int style = 0; style < STYLES; style++) {
             evening.house.style = style;
-            liveTrial(MINUTES);
+            evening.live(lawOf(home), MINUTES);
             if (isBest()) best = style;
         }
         return bestTold(what, best);
@@ -268,7 +265,7 @@ public final class WarmChairs {
         evening.house.become(home);
         for (int from = 0; from < MINUTES; from++) {
             evening.house.froms[p] = from;
-            liveTrial(MINUTES);
+            evening.live(lawOf(home), MINUTES);
             if (evening.risenAt[p] < 0) continue;
             found = from;
             if (what == 1) return found;
@@ -282,7 +279,7 @@ public final class WarmChairs {
         int rises = evening.risen;
         int stood = evening.stoodTogether();
         evening.house.lentAway = c;
-        liveTrial(MINUTES);
+        evening.live(lawOf(home), MINUTES);
         return what == 0 ? rises - evening.risen : evening.stoodTogether() - stood;
     }
 
@@ -296,7 +293,7 @@ public final class WarmChairs {
             for (int d = c + 1; d < home.chairs; d++) {
                 evening.house.become(home);
                 evening.house.change(c, d);
-                liveTrial(MINUTES);
+                evening.live(lawOf(home), MINUTES);
                 if (isBest()) best = c * 10 + d;
             }
         }
@@ -498,26 +495,18 @@ public final class WarmChairs {
 
     private void liveAsItIs(int n) {
         evening.house.become(home);
-        liveTrial(n);
-    }
-
-    /** The evening of the house that the caller has made of evening.house. */
-    private void liveTrial(int n) {
-        Law law = lawOf(evening.house);
-        evening.start();
-        // Nothing changes any more once all have risen.
-        for (int m = 0; m < n && evening.risen < evening.house.people; m++) evening.pass(law, m);
+        evening.live(lawOf(home), n);
     }
 
     private int risesBySet(int set) {
         evening.house.become(home);
         evening.house.warmSet = set;
-        liveTrial(MINUTES);
+        evening.live(lawOf(home), MINUTES);
         return evening.risen;
     }
 
     private int firstOtherwise(Sheet sheet, int n) {
-        liveTrial(n);
+        evening.live(lawOf(evening.house), n);
         for (int p = 0; p < home.people && p < sheet.size; p++) {
             if (sheet.cells[p] != evening.told(p, n)) return p;
         }
@@ -551,7 +540,7 @@ public final class WarmChairs {
         for (int p = 0; p < home.people; p++) row[p] = p;
         for (int k = 0; k < ORDERS; k++) {
             for (int p = 0; p < home.people; p++) evening.house.froms[p] = home.froms[row[p]];
-            liveTrial(MINUTES);
+            evening.live(lawOf(home), MINUTES);
             if (isBest()) System.arraycopy(row, 0, bestRow, 0, home.people);
             if (!nextRow(home.people)) return;
         }
@@ -693,10 +682,6 @@ public final class WarmChairs {
         static boolean lets(int kind, int more, int m) {
             return kind != STOVE || m < more;
         }
-
-        static boolean isWarmAnyway(int kind, boolean besideSatOn) {
-            return kind == STOVE || kind == BENCH && besideSatOn;
-        }
     }
 
     /** An evening, minute by minute, of a house of its own. */
@@ -712,11 +697,14 @@ public final class WarmChairs {
         final int[] till = new int[CHAIRS_MOST];
         final int[] sitter = new int[CHAIRS_MOST];
         final int[] names = new int[NAMES];
+        /** The CHAIRS sat on, as bits. */
+        int satOn = 0;
         /** How many have risen. */
         int risen = 0;
 
-        void start() {
+        private void start() {
             risen = 0;
+            satOn = 0;
             Arrays.fill(sitsOn, NONE);
             Arrays.fill(satDownOn, NONE);
             Arrays.fill(sat, 0);
@@ -726,14 +714,19 @@ public final class WarmChairs {
             for (int c = 0; c < CHAIRS_MOST; c++) till[c] = (house.warmSet >> c & 1) != 0 ? house.warmFor : 0;
         }
 
-        void pass(Law law, int m) {
-            for (int p = 0; p < house.people; p++) {
-                if (sitsOn[p] >= 0 && sat[p] >= house.longs[p]) rise(law, p, m);
-            }
-            sitDown(law, m);
-            for (int p = 0; p < house.people; p++) {
-                if (sitsOn[p] >= 0) sat[p]++;
-                else if (wants(p, m)) stood[p]++;
+        /** The first n minutes, of what the caller has made of the house. */
+        void live(Law law, int n) {
+            start();
+            // Nothing changes any more once all have risen.
+            for (int m = 0; m < n && risen < house.people; m++) {
+                for (int p = 0; p < house.people; p++) {
+                    if (sitsOn[p] >= 0 && sat[p] >= house.longs[p]) rise(law, p, m);
+                }
+                sitDown(law, m);
+                for (int p = 0; p < house.people; p++) {
+                    if (sitsOn[p] >= 0) sat[p]++;
+                    else if (wants(p, m)) stood[p]++;
+                }
             }
         }
 
@@ -744,6 +737,7 @@ public final class WarmChairs {
             int keeps = Kinds.keepsWarm(house.kinds[c], more, law.says(WARM, names), sat[p]);
             till[c] = m + Math.max(0, keeps);
             sitter[c] = NONE;
+            satOn &= ~(1 << c);
             sitsOn[p] = NONE;
             risenAt[p] = m;
             risen++;
@@ -764,6 +758,7 @@ public final class WarmChairs {
                 sitsOn[p] = c;
                 satDownOn[p] = c;
                 sitter[c] = p;
+                satOn |= 1 << c;
             }
         }
 
@@ -807,22 +802,13 @@ public final class WarmChairs {
         }
 
         private boolean isWarm(int c, int m) {
-            return m < till[c] || Kinds.isWarmAnyway(house.kinds[c], isSatOn(c - 1) || isSatOn(c + 1));
-        }
-
-        private boolean isSatOn(int c) {
-            return within(c, 0, house.chairs - 1) && sitter[c] >= 0;
+            boolean besideSatOn = ((satOn << 1 | satOn >> 1) >> c & 1) != 0;
+            return m < till[c] || house.kinds[c] == Kinds.STOVE || house.kinds[c] == Kinds.BENCH && besideSatOn;
         }
 
         int warmSet(int m) {
             int set = 0;
             for (int c = 0; c < house.chairs; c++) if (isWarm(c, m)) set |= 1 << c;
-            return set;
-        }
-
-        int satOnSet() {
-            int set = 0;
-            for (int c = 0; c < house.chairs; c++) if (isSatOn(c)) set |= 1 << c;
             return set;
         }
 
@@ -880,44 +866,35 @@ public final class WarmChairs {
 
         /** What a part says: below 0 it says 0, above 99 it says 99. */
         int says(int part, int[] named) {
-            int from = part == WARM ? 0 : ends[part - 1];
-            return Math.max(0, Math.min(SAYS_MOST, value(from, ends[part], named)));
-        }
-
-        private int value(int from, int end, int[] named) {
             int top = 0;
-            for (int k = from; k < end; k++) {
+            stack[0] = 0;
+            for (int k = part == WARM ? 0 : ends[part - 1]; k < ends[part]; k++) {
                 int code = codes[k];
-                if (code < OR) {
-                    if (top >= STACK) return 0;
+                if (code < OR && top < STACK) {
                     stack[top] = code < NAME ? code : named[code - NAME];
                     top++;
-                } else if (code >= NOT) {
-                    if (top < 1) return 0;
-                    stack[top - 1] = code == NEGATE ? -stack[top - 1] : truth(stack[top - 1] == 0);
-                } else {
-                    if (top < 2) return 0;
+                } else if (code == NEGATE && top > 0) {
+                    stack[top - 1] = -stack[top - 1];
+                } else if (code == NOT && top > 0) {
+                    stack[top - 1] = stack[top - 1] == 0 ? 1 : 0;
+                } else if (top > 1) {
                     top--;
                     stack[top - 1] = joined(code, stack[top - 1], stack[top]);
                 }
             }
-            return top < 1 ? 0 : stack[top - 1];
+            return Math.max(0, Math.min(SAYS_MOST, stack[0]));
         }
 
         private static int joined(int code, int a, int b) {
             switch (code) {
-                case OR: return truth(a != 0 || b != 0);
-                case AND: return truth(a != 0 && b != 0);
-                case LESS: return truth(a < b);
-                case EQUAL: return truth(a == b);
+                case OR: return a != 0 || b != 0 ? 1 : 0;
+                case AND: return a != 0 && b != 0 ? 1 : 0;
+                case LESS: return a < b ? 1 : 0;
+                case EQUAL: return a == b ? 1 : 0;
                 case PLUS: return a + b;
                 case MINUS: return a - b;
                 default: return a * b;
             }
-        }
-
-        private static int truth(boolean is) {
-            return is ? 1 : 0;
         }
     }
 
@@ -953,18 +930,17 @@ public final class WarmChairs {
             codesThere = 0;
             place = 0;
             look();
-            return isPart(WARM) && isPart(FIRST) && isPart(COSTS) && token == END;
+            for (int part = WARM; part <= COSTS; part++) {
+                if (!passes(KEY - part) || !isEither(0)) return false;
+                ends[part] = codesThere;
+                if (!passes(SEMICOLON)) return false;
+            }
+            return token == END;
         }
 
         /** The law that isText() has read. */
         Law law() {
             return new Law(Arrays.copyOf(codes, codesThere), Arrays.copyOf(ends, ends.length));
-        }
-
-        private boolean isPart(int part) {
-            if (!passes(KEY - part) || !isEither(0)) return false;
-            ends[part] = codesThere;
-            return passes(SEMICOLON);
         }
 
         /** Goes on behind the token, if it is that one. */

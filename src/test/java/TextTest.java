@@ -108,6 +108,8 @@ public final class TextTest {
         fault("warm \0" + REST, 5);
         fault("warm " + (char) 255 + REST, 5);
         fault("warm fatt" + REST, 5);
+        fault("warm fatz" + REST, 5);
+        fault("warm afat" + REST, 5);
         fault("warm Fat" + REST, 5);
         fault("warm fa" + REST, 5);
         fault("warm f" + REST, 5);
@@ -218,6 +220,7 @@ public final class TextTest {
     private static void asks() {
         WarmChairs x = new WarmChairs();
         Check.due("text 0: warm", x.asks(0, 29, 999, 30, 9), 14);
+        Check.due("text 0: warm of the most", x.asks(0, 99, 999, 30, 9), 21);
         Check.due("text 0: first", x.asks(1, 29, 999, 30, 9), 30);
         Check.due("text 0: costs", x.asks(2, 29, 999, 30, 9), 99);
         Check.due("text 0: costs, sat is no matter", x.asks(2, 29, 47, 30, 9), 4);
@@ -284,6 +287,11 @@ public final class TextTest {
         says("9999 * 9999 * 9999 < 0", 1);
         says("9999 * 9999 * 9999 = 0 - " + digits(1027349969), 1);
         says("9999 * 9999 * 9999 = 1 - " + digits(1027349969), 0);
+        // As many operands wait as ever can.
+        for (int least = 0; least < 2; least++) {
+            String level = "0or 1and 0<0+1*";
+            says((level + "(").repeat(5) + level + least + ")))))", least);
+        }
         says("1024 * 1024 * 2048 < 0", 1);
         says("1024 * 1024 * 2048 - 1 < 0", 0);
         says("1024 * 1024 * 2048 = - ( 1024 * 1024 * 2048 )", 1);
