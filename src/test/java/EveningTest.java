@@ -203,6 +203,8 @@ public final class EveningTest {
         Check.due("never warm", x.cold(), 0);
         x.house(2, 29);
         Check.due("warm till 29", x.cold(), 29);
+        x.house(2, 1);
+        Check.due("warm in the first minute alone", x.cold(), 1);
         x.house(1, 2);
         Check.due("another is warm, which is not there", x.cold(), 0);
         x.house(1, 1);

@@ -69,6 +69,7 @@ public final class LotTest {
         oddsAre(x, 0, 1, 4, 1, 1);
         oddsAre(x, 0, 1, 5, 0, 1);
         oddsAre(x, 0, 2, 4, 1, 2);
+        oddsAre(x, 0, 6, 4, 2, 3);
         oddsAre(x, 6, 6, 4, 1, 6);
         oddsAre(x, 0, 9, 3, 8, 9);
         oddsAre(x, 0, 12, 4, 5, 12);

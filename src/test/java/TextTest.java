@@ -137,6 +137,9 @@ public final class TextTest {
         fault("warm 1 ; first 1 ; costs 1", 26);
         fault("warm 1 ; first 1 ; costs 1 ; ;", 29);
         fault("warm 1 ; first 1 ; costs 1 ; warm", 29);
+        fault("warm 1 ; first 1 ; costs 1 ; 1", 29);
+        fault("warm 1 ; first 1 ; costs 1 ; fat", 29);
+        fault("warm 1 ; first 1 ; costs 1 ; $", 29);
         fault("warm 1 ; costs 1 ; first 1 ;", 9);
         fault("warm ; $", 5);
         fault("warm 1 2 $", 7);
@@ -220,6 +223,7 @@ public final class TextTest {
     private static void asks() {
         WarmChairs x = new WarmChairs();
         Check.due("text 0: warm", x.asks(0, 29, 999, 30, 9), 14);
+        Check.due("text 0: warm of fat alone", x.asks(0, 50, 0, 0, 0), 8);
         Check.due("text 0: warm of the most", x.asks(0, 99, 999, 30, 9), 21);
         Check.due("text 0: first", x.asks(1, 29, 999, 30, 9), 30);
         Check.due("text 0: costs", x.asks(2, 29, 999, 30, 9), 99);
