@@ -2,14 +2,20 @@
 final class Check {
     private static int wrong = 0;
     private static int asked = 0;
+    private static String test = "";
 
     private Check() { }
+
+    /** What is asked from now on belongs to a test of this name. */
+    static void named(String name) {
+        test = name + ": ";
+    }
 
     static void due(String call, long got, long want) {
         asked++;
         if (got == want) return;
         wrong++;
-        if (wrong <= 50) System.out.println(call + " answered " + got + ", due is " + want);
+        if (wrong <= 50) System.out.println(test + call + " answered " + got + ", due is " + want);
     }
 
     static void holds(String what, boolean is) {
