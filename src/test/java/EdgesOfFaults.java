@@ -4,9 +4,9 @@ import java.util.List;
 /** The edges of promise 8's FAULT: what can stand where, tokens that are none, signs that are open. */
 final class EdgesOfFaults {
     private static final String REST = ";first 0;costs 0;";
-    private static final String[] TOKENS = {"(", ")", ";", "+", "-", "*", "<", "=", "7", "fat", "more", "sat", "stood",
-        "minute", "number", "or", "and", "not", "warm", "first", "costs", "12345", "x", "$"};
-    private static final String[] OPERANDS = {"(", "-", "7", "fat", "more", "sat", "stood", "minute", "number"};
+    private static final String[] TOKENS = {"(", ")", ";", "+", "-", "*", "<", "=", "0", "1", "7", "9999", "fat",
+        "more", "sat", "stood", "minute", "number", "or", "and", "not", "warm", "first", "costs", "12345", "x", "$"};
+    private static final String[] OPERANDS = {"(", "-", "0", "1", "7", "9999", "fat", "more", "sat", "stood", "minute", "number"};
     private static final String[] JOINTS = {"+", "-", "*", "or", "and"};
 
     private static void fault(String text, int place) {
@@ -176,6 +176,10 @@ final class EdgesOfFaults {
         fault("warm fAt" + REST, 5);
         fault("Warm 1" + REST, 0);
         fault("warm a" + REST, 5);
+        fault("warm fata" + REST, 5);
+        fault("warm fatz" + REST, 5);
+        fault("warm afat" + REST, 5);
+        fault("warm zfat" + REST, 5);
         fault("warm z" + REST, 5);
     }
 
